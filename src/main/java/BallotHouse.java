@@ -131,7 +131,7 @@ public final class BallotHouse {
             return false;
         }
         int bit = 1 << voter;
-        silentVoters = is ? silentVoters | bit : silentVoters & ~bit;
+        silentVoters = is ? (silentVoters | bit) : (silentVoters & ~bit);
         return true;
     }
 
@@ -275,7 +275,7 @@ public final class BallotHouse {
 
     private int sendToEach(int receivers, int kind, Ballot b, int place) {
         for (int voter = 0; voter < voters; voter++) {
-            if ((receivers >> voter & 1) != 0) {
+            if ((receivers & (1 << voter)) != 0) {
                 letters.send(kind, b.number, voter, place, 0L);
             }
         }
@@ -296,7 +296,7 @@ public final class BallotHouse {
     private boolean isForSilent(int k) {
         int kind = letters.kind[k];
         boolean isForVoter = kind == LETTER_READ || kind == LETTER_VOTE;
-        return isForVoter && (silentVoters >> letters.voter[k] & 1) != 0;
+        return isForVoter && (silentVoters & (1 << letters.voter[k])) != 0;
     }
 
     private int firstDeliverable() {
@@ -402,7 +402,7 @@ public final class BallotHouse {
             b.state = STATE_MOVING;
             sendMissingVotes(b);
         }
-        if (b.state == STATE_MOVING && b.isMovingOver()) {
+        if (b.state == STATE_MOVING && (b.found & ~b.knownPlaces()) == 0) {
             b.state = STATE_ASKING;
             letters.send(LETTER_COMPLETE, b.number, NONE, NONE, 0L);
         }
@@ -424,12 +424,12 @@ public final class BallotHouse {
         private static final long MASK = 255L;
 
         static int at(long packed, int place) {
-            return (int) (packed >>> place * BITS & MASK);
+            return (int) ((packed >>> (place * BITS)) & MASK);
         }
 
         static long with(long packed, int place, int number) {
             int shift = place * BITS;
-            return packed & ~(MASK << shift) | (long) number << shift;
+            return (packed & ~(MASK << shift)) | ((long) number << shift);
         }
 
         static int places(long packed) {
@@ -472,7 +472,7 @@ public final class BallotHouse {
         }
 
         boolean hasWord(int place) {
-            return ((found | proposed) >> place & 1) != 0;
+            return ((found | proposed) & (1 << place)) != 0;
         }
 
         boolean knows(int place) {
@@ -491,10 +491,6 @@ public final class BallotHouse {
                 }
             }
             return bits;
-        }
-
-        boolean isMovingOver() {
-            return (found & ~knownPlaces()) == 0;
         }
     }
 

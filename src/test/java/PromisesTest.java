@@ -222,6 +222,13 @@ public final class PromisesTest {
         letter("4", x, 3, VOTE, 1, 0, 6, 0);
         letter("4", x, 4, VOTE, 1, 2, 6, 0);
         empty(x);
+        x.propose(1, 7, 7);
+        x.deliver(0);
+        empty(x);
+        due("4 also one that voted, its answer being lost", x.again(1), 8);
+        letter("4", x, 5, VOTE, 1, 0, 7, 0);
+        due("4 voted", x.vote(0, 7), 1);
+        empty(x);
 
         due("4 made", x.ballot(6, 2, 2), 2);
         due("4 new", x.again(2), 1);
@@ -243,17 +250,17 @@ public final class PromisesTest {
         x.deliver(0);
         x.deliver(1);
         due("4 moving", x.of(2, 0), MOVING);
-        due("4 found", x.of(2, 6), 4 + 16 + 64);
+        due("4 found", x.of(2, 6), 4 + 16 + 64 + 128);
         empty(x);
-        due("4 all its votes", x.again(2), 6);
+        due("4 all its votes", x.again(2), 8);
         letter("4", x, 0, VOTE, 2, 1, 2, 0);
         letter("4", x, 1, VOTE, 2, 2, 2, 0);
         letter("4", x, 2, VOTE, 2, 1, 4, 0);
-        letter("4", x, 5, VOTE, 2, 2, 6, 0);
-        x.lose(5);
+        letter("4", x, 7, VOTE, 2, 2, 7, 0);
+        x.lose(7);
         x.settle(100);
         due("4 one is missing", x.again(2), 1);
-        letter("4", x, 0, VOTE, 2, 2, 6, 0);
+        letter("4", x, 0, VOTE, 2, 2, 7, 0);
         x.settle(2);
         due("4 asking", x.of(2, 0), ASKING);
         x.lose(0);
