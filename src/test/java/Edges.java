@@ -92,19 +92,18 @@ final class Edges {
             x.propose(1, place, 10 + place);
         }
         int size = 56;
-        while (size + 56 <= letters) {
-            size += x.again(1);
+        for (; size + 56 <= letters; size += 56) {
+            x.again(1);
         }
-        for (int k = 0; size < letters; k++) {
-            x.twice(k);
-            size++;
+        for (; size < letters; size++) {
+            x.twice(size % 56);
         }
         return x;
     }
 
     static void loseAll(BallotHouse x) {
-        while (x.lose(0)) {
-            // one after the other
+        for (int left = x.about(3); left > 0; left--) {
+            x.lose(0);
         }
     }
 

@@ -6,6 +6,8 @@ import java.util.TreeSet;
 
 // Long runs of calls, drawn from fixed seeds, on the class and on a second, plain telling of the
 // document: sets and maps in place of bits, and letters that carry their values themselves.
+// A run has 512 calls that act; the questions between them come on top, though the document leaves
+// free what is answered behind the 512th call: the class does not count its calls.
 public final class ModelTest {
     private static final int RUNS = 3000;
     private static final int CALLS = 512;

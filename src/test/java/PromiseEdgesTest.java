@@ -178,6 +178,7 @@ public final class PromiseEdgesTest {
         Edges.test("3: a value of 0 is something", PromiseEdgesTest::proposeZero);
         Edges.test("3: proposed though its VOTES find 400", PromiseEdgesTest::proposeInFullAir);
         Edges.test("3: an older BALLOT is ACTIVE still", PromiseEdgesTest::proposeByAnOlderOne);
+        Edges.test("3: true, though another BALLOT has chosen there", PromiseEdgesTest::proposeWhereAnotherChose);
     }
 
     private static void proposeIsTrue() {
@@ -280,6 +281,18 @@ public final class PromiseEdgesTest {
         due("chosen(1): its VOTES come to higher PROMISES", x.chosen(1), NONE);
     }
 
+    private static void proposeWhereAnotherChose() {
+        BallotHouse x = Edges.inState(Edges.IS_ACTIVE);
+        x.propose(2, 1, 5);
+        x.settle(6);
+        due("chosen(1)", x.chosen(1), 2);
+        due("propose(1, 1, 6)", x.propose(1, 1, 6), true);
+        due("about(3)", x.about(3), 3);
+        x.settle(100);
+        due("chosenValue(1)", x.chosenValue(1), 5);
+        due("isOne(1)", x.isOne(1), true);
+    }
+
     // ---- 4
 
     private static void again() {
@@ -293,11 +306,13 @@ public final class PromiseEdgesTest {
         Edges.test("4: MOVING: to those MEMBERS that have not answered there", PromiseEdgesTest::againMovingSome);
         Edges.test("4: MOVING: of each PLACE that it does not KNOW", PromiseEdgesTest::againMovingUnknown);
         Edges.test("4: ASKING: COMPLETE", () -> againSends(Edges.IS_ASKING, new int[][] {{Edges.COMPLETE, 2, NONE, NONE, 0}}));
+        Edges.test("4: ASKING: COMPLETE (though it is COMPLETE already)", PromiseEdgesTest::againWhenComplete);
         Edges.test("4: ACTIVE: (nothing to wait for)", () -> againSends(Edges.IS_ACTIVE, new int[][] {}));
         Edges.test("4: ACTIVE: of each PLACE that it does not KNOW", PromiseEdgesTest::againActive);
         Edges.test("4: ACTIVE: to those MEMBERS that have not answered there", PromiseEdgesTest::againActiveSome);
         Edges.test("4: ACTIVE: PLACES in order, its MEMBERS alone", PromiseEdgesTest::againActiveInOrder);
         Edges.test("4: how many were sent (also lost for want of room)", PromiseEdgesTest::againInFullAir);
+        Edges.test("4: (also lost for want of room), in each STATE", PromiseEdgesTest::againInFullAirByState);
         Edges.test("4: NONE if there is none such", PromiseEdgesTest::againWithoutBallot);
         Edges.test("4: again and again", PromiseEdgesTest::againTwice);
     }
@@ -377,6 +392,18 @@ public final class PromiseEdgesTest {
         }
     }
 
+    // Its ACTIVE is lost, so it asks for it anew.
+    private static void againWhenComplete() {
+        BallotHouse x = Edges.inState(Edges.IS_ASKING);
+        x.settle(2);
+        due("about(2)", x.about(2), 2);
+        x.lose(0);
+        due("again(2)", x.again(2), 1);
+        Edges.letter(x, 0, Edges.COMPLETE, 2, NONE, NONE, 0);
+        due("settle(9)", x.settle(9), 2);
+        due("of(2, 0)", x.of(2, 0), Edges.IS_ACTIVE);
+    }
+
     private static void againActive() {
         BallotHouse x = Edges.inState(Edges.IS_ACTIVE);
         x.propose(2, 4, 44);
@@ -431,6 +458,23 @@ public final class PromiseEdgesTest {
         x.ballot(1, 1, 1);
         due("again(2) in MADE", x.again(2), 1);
         due("about(4)", x.about(4), 56 + 55 + 2);
+    }
+
+    private static void againInFullAirByState() {
+        int[] sent = {1, 3, 3, 1};
+        for (int state = Edges.IS_MADE; state <= Edges.IS_ASKING; state++) {
+            BallotHouse x = Edges.inState(state);
+            for (int left = 400 - x.about(3); left > 0; left--) {
+                x.twice(0);
+            }
+            due("again(2) in " + state, x.again(2), sent[state]);
+            due("about(3)", x.about(3), 400);
+            due("about(4)", x.about(4), sent[state]);
+            x.lose(0);
+            due("again(2) in " + state + " with room for one", x.again(2), sent[state]);
+            due("about(3)", x.about(3), 400);
+            due("about(4)", x.about(4), 2 * sent[state] - 1);
+        }
     }
 
     private static void againWithoutBallot() {

@@ -33,13 +33,13 @@ public final class PromisesTest {
     }
 
     private static void fill(BallotHouse x) {
-        for (int i = 0; i < 400 && x.about(3) < 400; i++) {
+        for (int left = 400 - x.about(3); left > 0; left--) {
             x.twice(0);
         }
     }
 
     private static void empty(BallotHouse x) {
-        for (int i = 0; i < 400 && x.about(3) > 0; i++) {
+        for (int left = x.about(3); left > 0; left--) {
             x.lose(0);
         }
     }
@@ -146,7 +146,7 @@ public final class PromisesTest {
         due("2 refused loses nothing", x.ballot(0, 1, 1), NONE);
         due("2 lost still", x.about(4), 1);
         due("2 air stays", x.about(3), 400);
-        empty(x);
+        x.settle(1000);
         due("2 asked for anew", x.again(2), 1);
         letter("2 anew", x, 0, NEW, 2, NONE, NONE, 0);
     }

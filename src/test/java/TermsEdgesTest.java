@@ -441,6 +441,7 @@ public final class TermsEdgesTest {
         Edges.test("READ ANSWER with its VOTES as they are (none)", TermsEdgesTest::answerWithoutVotes);
         Edges.test("READ ANSWER with its VOTES as they are (all)", TermsEdgesTest::answerWithAllVotes);
         Edges.test("READ ANSWER with its VOTES as they are (not as they come to be)", TermsEdgesTest::answerAsItWasSent);
+        Edges.test("READ ANSWER with its VOTES as they are (later ones are not FOUND)", TermsEdgesTest::laterVotesAreNotFound);
     }
 
     private static void readAboveThePromise() {
@@ -510,6 +511,30 @@ public final class TermsEdgesTest {
         x.deliver(1);
         due("vote(0, 5)", x.vote(0, 5), 2);
         Edges.letter(x, 0, Edges.READ_ANSWER, 2, 0, NONE, 0);
+    }
+
+    // The voter answers 2; before that comes, it votes by 3.
+    private static void laterVotesAreNotFound() {
+        BallotHouse x = Edges.active(1, 1, 1);
+        x.ballot(1, 1, 1);
+        x.ballot(1, 1, 1);
+        x.deliver(0);
+        x.deliver(1);
+        Edges.letter(x, 1, Edges.READ_ANSWER, 2, 0, NONE, 0);
+        x.deliver(0);
+        for (int step = 0; step < 4; step++) {
+            x.deliver(1);
+        }
+        due("of(3, 0)", x.of(3, 0), Edges.IS_ACTIVE);
+        x.propose(3, 0, 33);
+        x.deliver(1);
+        due("vote(0, 0)", x.vote(0, 0), 3);
+        Edges.letter(x, 0, Edges.READ_ANSWER, 2, 0, NONE, 0);
+        x.deliver(0);
+        due("of(2, 5)", x.of(2, 5), 1);
+        due("of(2, 6)", x.of(2, 6), 0);
+        due("said(2, 0)", x.said(2, 0), 0);
+        due("of(2, 0)", x.of(2, 0), Edges.IS_ASKING);
     }
 
     private static void readingFinds() {
@@ -1169,6 +1194,8 @@ public final class TermsEdgesTest {
         Edges.test("what would be more is lost at once", TermsEdgesTest::whatIsMoreIsLost);
         Edges.test("what would be more (of several, the first that have room lie there)", TermsEdgesTest::whatHasRoomLies);
         Edges.test("what would be more: what is delivered gives its room to its answer", TermsEdgesTest::answerHasItsRoom);
+        Edges.test("what would be more: READING begins though READS are lost", () -> beginsInFullAir(Edges.IS_READING));
+        Edges.test("what would be more: MOVING begins though VOTES are lost", () -> beginsInFullAir(Edges.IS_MOVING));
     }
 
     private static void airIsInOrder() {
@@ -1238,6 +1265,30 @@ public final class TermsEdgesTest {
         due("about(3)", x.about(3), 400);
         due("about(4)", x.about(4), 0);
         Edges.letter(x, 399, Edges.VOTE_ANSWER, 1, 0, 0, 0);
+    }
+
+    // What brings ballot 2 into the state lies at 0; its room is all there is for three letters.
+    private static void beginsInFullAir(int state) {
+        BallotHouse x = Edges.inState(Edges.IS_MADE);
+        if (state == Edges.IS_MOVING) {
+            x.settle(5);
+        }
+        for (int left = 400 - x.about(3); left > 0; left--) {
+            x.twice(0);
+        }
+        int kind = state == Edges.IS_READING ? Edges.READ : Edges.VOTE;
+        int place = state == Edges.IS_READING ? NONE : 0;
+        due("of(2, 0)", x.of(2, 0), state - 1);
+        due("deliver(0)", x.deliver(0), true);
+        due("of(2, 0)", x.of(2, 0), state);
+        due("about(3)", x.about(3), 400);
+        due("about(4)", x.about(4), 2);
+        Edges.letter(x, 399, kind, 2, 0, place, 0);
+        x.settle(3000);
+        due("of(2, 0): what is lost does not come", x.of(2, 0), state);
+        due("again(2) asks for it anew", x.again(2), 2);
+        x.settle(100);
+        due("of(2, 0)", x.of(2, 0), Edges.IS_ACTIVE);
     }
 
     private static void silentVoters() {
