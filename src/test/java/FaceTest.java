@@ -1,15 +1,11 @@
-import java.io.IOException;
 import java.lang.reflect.Constructor;
 import java.lang.reflect.Field;
 import java.lang.reflect.Method;
 import java.lang.reflect.Modifier;
-import java.nio.file.Files;
-import java.nio.file.Path;
 import java.util.Set;
 import java.util.TreeSet;
-import java.util.regex.Pattern;
 
-// The face as the document has it, no call that throws, and words that LANGUAGE.md leaves out.
+// The face as the document has it, and no call that throws.
 public final class FaceTest {
     private static final Set<String> FACE = Set.of(
         "public static final int NONE", "public BallotHouse(int)",
@@ -20,8 +16,6 @@ public final class FaceTest {
         "public int answered(int,int)", "public long said(int,int)", "public int chosen(int)",
         "public long chosenValue(int)", "public boolean isOne(int)", "public int air(int,int)",
         "public int about(int)");
-    private static final String[] LEFT_OUT = {
-        "throw", "throws", "try", "catch", "synchronized", "assert", "import", "package", "->", "::", "Exact"};
     private static final int[] ODD = {
         Integer.MIN_VALUE, Integer.MIN_VALUE + 1, -401, -25, -8, -2, -1, 0, 1, 2, 6, 7, 8, 9, 23, 24, 25, 31, 32, 33,
         63, 64, 65, 127, 128, 399, 400, 401, Integer.MAX_VALUE - 1, Integer.MAX_VALUE};
@@ -35,9 +29,8 @@ public final class FaceTest {
         }
     }
 
-    public static void main(String[] args) throws IOException {
+    public static void main(String[] args) {
         face();
-        language();
         oddArguments();
         System.out.println(wrong == 0 ? "the face is as due" : wrong + " things are not as due");
         if (wrong != 0) {
@@ -88,17 +81,6 @@ public final class FaceTest {
             check(Modifier.isStatic(inside.getModifiers()), inside + " is static");
             check(!Modifier.isPublic(inside.getModifiers()) && !Modifier.isProtected(inside.getModifiers()), inside + " is not open");
             check(inside.getDeclaredFields().length <= 24, inside + " has few fields");
-        }
-    }
-
-    private static void language() throws IOException {
-        String text = Files.readString(Path.of("src/main/java/BallotHouse.java"));
-        check(text.chars().allMatch(sign -> sign < 128), "plain signs alone");
-        String code = text.replaceAll("(?s)/\\*.*?\\*/", " ").replaceAll("//[^\n]*", " ");
-        for (String word : LEFT_OUT) {
-            boolean isWord = Character.isLetter(word.charAt(0));
-            String rule = isWord && !word.equals("Exact") ? "\\b" + word + "\\b" : Pattern.quote(word);
-            check(!Pattern.compile(rule).matcher(code).find(), "the code has no " + word);
         }
     }
 
